@@ -423,6 +423,14 @@ final class DeckModel {
         return openOnes().size();
     }
 
+    int openByLog() {
+        return openLines();
+    }
+
+    boolean isSound() {
+        return true;
+    }
+
     int openAt(int index) {
         unless(in(index, 0, openOnes().size() - 1), new IndexOutOfBoundsException());
         return openOnes().get(index).number;

@@ -1,42 +1,118 @@
-import java.util.ArrayList;
-import java.util.List;
+import java.lang.reflect.InvocationTargetException;
+import java.lang.reflect.Method;
+import java.util.HashMap;
+import java.util.Map;
+import java.util.TreeMap;
 
 /** Long runs of calls: after each of them, all that the deck and the plain model answer is compared. */
 public final class ModelTest {
-    private static final int RUNS = 60;
+    private static final int RUNS = 45;
     private static final int CALLS = 512;
     private static final int[] ODD = {-1, Integer.MIN_VALUE, Integer.MAX_VALUE, 4, 6, 8, 25, 49, 60, 256};
+    private static final String[] ASKED = {
+        "top", "drill", "hour", "onDuty", "isTired", "openLines", "openByLog", "closedShare", "meanAge", "isSound"};
+    private static final String[] ASKED_BY_NUMBER = {
+        "state", "alarms", "done", "reason", "barredBy", "isPermitOpen", "restLeft"};
+    private static final String[] ASKED_BY_LINE = {"openAt", "kindOf", "passed"};
 
-    private final Check check;
+    private final Check check = new Check("model");
+    private final Map<String, Method> methods = new HashMap<>();
+    private final Map<String, Integer> outcomes = new TreeMap<>();
     private HandoverDeck deck;
     private DeckModel model;
     private long seed;
     /** How fast lines are used up: runs differ, so that some see many hand-overs, and others the limits. */
     private int haste;
+    private String place;
 
-    private ModelTest(Check check) {
-        this.check = check;
-    }
-
-    public static void main(String[] args) {
-        Check check = new Check("model");
-        ModelTest test = new ModelTest(check);
+    public static void main(String[] args) throws ReflectiveOperationException {
+        ModelTest test = new ModelTest();
+        test.findMethods(HandoverDeck.class);
+        test.findMethods(DeckModel.class);
         for (int run = 0; run < RUNS; run++) {
             test.compareRun(run);
         }
-        check.end();
+        test.checkReach();
+        test.check.end();
     }
 
-    private void compareRun(int run) {
+    private void findMethods(Class<?> owner) {
+        for (Method method : owner.getDeclaredMethods()) {
+            methods.put(owner.getName() + "." + method.getName(), method);
+        }
+    }
+
+    private void compareRun(int run) throws ReflectiveOperationException {
         deck = new HandoverDeck();
         model = new DeckModel();
         seed = 7919L * run + 17;
         haste = run % 3;
         for (int call = 0; call < CALLS; call++) {
-            String name = "run " + run + ", call " + call;
-            compareCall(name);
-            check.same(name + ", all answers then", viewOfModel(), viewOfDeck());
+            place = "run " + run + ", call " + call + ", ";
+            compareOne();
+            check.same(place + "all answers then", viewOf(model), viewOf(deck));
         }
+    }
+
+    /** Runs that never reach what a call does, or where it throws, would compare nothing of worth. */
+    private void checkReach() {
+        String[] reached = {
+            "addProcedure", "addProcedure throws.IllegalStateException",
+            "addStep", "addStep throws.IllegalStateException", "addStep throws.NoSuchElementException",
+            "raise", "raise throws.IllegalStateException", "clear", "clear throws.NoSuchElementException",
+            "shelve", "shelve throws.IllegalStateException", "shelve throws.IllegalArgumentException",
+            "step", "step throws.IllegalStateException", "undo", "undo throws.IllegalStateException",
+            "undo throws.UnsupportedOperationException", "reset", "reset throws.IllegalStateException",
+            "openPermit", "openPermit throws.IllegalStateException", "openPermit throws.UnsupportedOperationException",
+            "closePermit", "closePermit throws.IllegalStateException",
+            "note", "note throws.IllegalStateException", "close", "close throws.UnsupportedOperationException",
+            "begin", "begin throws.IllegalStateException",
+            "handOver", "handOver throws.IllegalStateException", "handOver throws.UnsupportedOperationException",
+            "acknowledge", "acknowledge throws.IllegalStateException",
+            "take", "take throws.IllegalStateException", "take throws.UnsupportedOperationException",
+            "cancel", "cancel throws.IllegalStateException", "pass", "pass throws.IllegalArgumentException"};
+        for (String outcome : reached) {
+            check.isTrue("reached often: " + outcome, outcomes.getOrDefault(outcome, 0) >= 5);
+        }
+    }
+
+    private String ask(Object target, String name, int... numbers) throws ReflectiveOperationException {
+        Object[] arguments = new Object[numbers.length];
+        for (int i = 0; i < numbers.length; i++) {
+            arguments[i] = numbers[i];
+        }
+        try {
+            return String.valueOf(methods.get(target.getClass().getName() + "." + name).invoke(target, arguments));
+        } catch (InvocationTargetException e) {
+            return "throws." + e.getCause().getClass().getSimpleName();
+        }
+    }
+
+    private void compare(String name, int... numbers) throws ReflectiveOperationException {
+        String due = ask(model, name, numbers);
+        check.same(place + name, due, ask(deck, name, numbers));
+        outcomes.merge(due.startsWith("throws") ? name + " " + due : name, 1, Integer::sum);
+    }
+
+    private String viewOf(Object target) throws ReflectiveOperationException {
+        StringBuilder view = new StringBuilder();
+        for (String name : ASKED) {
+            view.append(name).append(' ').append(ask(target, name)).append(", ");
+        }
+        for (int number = -1; number <= 8; number++) {
+            for (String name : ASKED_BY_NUMBER) {
+                view.append(name).append(number).append(' ').append(ask(target, name, number)).append(", ");
+            }
+            for (int kind = -1; kind <= 4; kind++) {
+                view.append(ask(target, "isShelved", number, kind)).append(", ");
+            }
+        }
+        for (int line = -1; line <= 60; line++) {
+            for (String name : ASKED_BY_LINE) {
+                view.append(name).append(line).append(' ').append(ask(target, name, line)).append(", ");
+            }
+        }
+        return view.toString();
     }
 
     /** A plain linear congruence: the same numbers on every machine and every day. */
@@ -45,170 +121,105 @@ public final class ModelTest {
         return (int) ((seed >>> 33) % bound);
     }
 
-    private int mostly(int bound) {
+    private int mostlyBelow(int bound) {
         return below(40) == 0 ? ODD[below(ODD.length)] : below(bound);
     }
 
     private int mostlyFrom(int least, int most) {
-        return below(30) == 0 ? ODD[below(ODD.length)] : below(10) == 0 ? least - 1 + below(2) * (most - least + 2)
-                : least + below(most - least + 1);
+        if (below(30) == 0) {
+            return ODD[below(ODD.length)];
+        }
+        if (below(20) == 0) {
+            return below(2) == 0 ? least - 1 : most + 1;
+        }
+        return least + below(most - least + 1);
     }
 
-    private void same(String name, Check.Call due, Check.Call got) {
-        check.same(name, Check.answerOf(due), Check.answerOf(got));
-    }
-
-    private void compareCall(String name) {
+    private void compareOne() throws ReflectiveOperationException {
         int pick = below(100);
         if (pick < 30) {
-            compareProcedureCall(name, pick);
+            compareProcedureCall(pick);
         } else if (pick < 55) {
-            compareCrewCall(name, pick);
+            compareCrewCall(pick);
         } else if (pick < 70) {
-            comparePermitCall(name, pick);
+            comparePermitCall(pick);
         } else if (haste == 2 || below(haste == 1 ? 3 : 10) == 0) {
-            compareLineCall(name, pick);
+            compareLineCall(pick);
         } else {
-            acknowledgeNext(name);
+            acknowledgeOpen();
         }
     }
 
-    private void compareProcedureCall(String name, int pick) {
-        int p = mostly(3 + below(4));
+    private void compareProcedureCall(int pick) throws ReflectiveOperationException {
+        int procedure = mostlyBelow(1 + below(6));
         if (pick < 2) {
-            same(name + " addProcedure", () -> model.addProcedure(), () -> deck.addProcedure());
-        } else if (pick < 7) {
-            int needed = mostly(2 + below(7));
-            int neededState = mostly(1 + below(4));
-            int unit = mostly(2 + below(7));
-            int newState = mostly(4);
-            same(name + " addStep", () -> model.addStep(p, needed, neededState, unit, newState),
-                    () -> deck.addStep(p, needed, neededState, unit, newState));
+            compare("addProcedure");
+        } else if (pick < 9) {
+            compare("addStep", procedure, mostlyBelow(2 + below(7)), mostlyBelow(1 + below(4)),
+                    mostlyBelow(2 + below(7)), mostlyBelow(4));
         } else if (pick < 20) {
-            same(name + " step", () -> model.step(p), () -> deck.step(p));
+            compare("step", procedure);
         } else if (pick < 26) {
-            same(name + " undo", () -> model.undo(p), () -> deck.undo(p));
+            compare("undo", procedure);
         } else if (pick < 28) {
-            same(name + " reset", () -> model.reset(p), () -> deck.reset(p));
+            compare("reset", procedure);
         } else {
-            compareEveryStep(name, p);
+            for (int i = 0; i < 8; i++) {
+                compare("step", procedure);
+            }
         }
     }
 
-    private void compareEveryStep(String name, int p) {
-        for (int i = 0; i < 8; i++) {
-            same(name + " step in a row", () -> model.step(p), () -> deck.step(p));
-        }
-    }
-
-    private void compareCrewCall(String name, int pick) {
-        int crew = mostly(4);
+    private void compareCrewCall(int pick) throws ReflectiveOperationException {
+        int crew = mostlyBelow(4);
         if (pick < 33) {
-            same(name + " begin", () -> model.begin(crew), () -> deck.begin(crew));
+            compare("begin", crew);
         } else if (pick < 38) {
-            same(name + " handOver", () -> model.handOver(crew), () -> deck.handOver(crew));
+            compare("handOver", crew);
         } else if (pick < 43) {
-            same(name + " take", () -> model.take(), () -> deck.take());
+            compare("take");
         } else if (pick < 45) {
-            same(name + " cancel", () -> model.cancel(), () -> deck.cancel());
+            compare("cancel");
         } else if (pick < 49) {
-            int hours = below(4) == 0 ? mostlyFrom(1, 48) : mostlyFrom(1, 4);
-            same(name + " pass", () -> model.pass(hours), () -> deck.pass(hours));
+            compare("pass", below(4) == 0 ? mostlyFrom(1, 48) : mostlyFrom(1, 4));
         } else {
-            acknowledgeNext(name);
+            acknowledgeOpen();
         }
     }
 
-    private void acknowledgeNext(String name) {
+    private void acknowledgeOpen() throws ReflectiveOperationException {
         if (below(8) == 0) {
-            int line = mostly(60);
-            same(name + " acknowledge", () -> model.acknowledge(line), () -> deck.acknowledge(line));
+            compare("acknowledge", mostlyBelow(60));
             return;
         }
         int open = model.openLines();
         int first = open == 0 ? 0 : below(open);
         for (int i = 0; i < open; i++) {
-            int line = model.openAt((first + i) % open);
-            same(name + " acknowledge", () -> model.acknowledge(line), () -> deck.acknowledge(line));
+            compare("acknowledge", model.openAt((first + i) % open));
         }
     }
 
-    private void comparePermitCall(String name, int pick) {
+    private void comparePermitCall(int pick) throws ReflectiveOperationException {
         if (pick < 62 && below(3) == 0) {
-            int units = below(3) == 0 ? mostlyFrom(1, 255) : 1 << below(8) | 1 << below(8);
-            same(name + " openPermit", () -> model.openPermit(units), () -> deck.openPermit(units));
+            compare("openPermit", below(3) == 0 ? mostlyFrom(1, 255) : 1 << below(8) | 1 << below(8));
         } else {
-            int permit = mostly(8);
-            same(name + " closePermit", () -> model.closePermit(permit), () -> deck.closePermit(permit));
+            compare("closePermit", mostlyBelow(8));
         }
     }
 
-    private void compareLineCall(String name, int pick) {
-        int unit = mostly(8);
-        int kind = mostly(4);
+    private void compareLineCall(int pick) throws ReflectiveOperationException {
+        int unit = mostlyBelow(2 + below(7));
+        int kind = mostlyBelow(1 + below(4));
         if (pick < 78) {
-            int priority = mostlyFrom(1, 5);
-            same(name + " raise", () -> model.raise(unit, kind, priority), () -> deck.raise(unit, kind, priority));
+            compare("raise", unit, kind, mostlyFrom(1, 5));
         } else if (pick < 86) {
-            int hours = mostlyFrom(1, 24);
-            same(name + " shelve", () -> model.shelve(unit, kind, hours), () -> deck.shelve(unit, kind, hours));
-        } else if (pick < 91) {
-            same(name + " clear", () -> model.clear(unit, kind), () -> deck.clear(unit, kind));
-        } else if (pick < 94) {
-            same(name + " note", () -> model.note(), () -> deck.note());
+            compare("shelve", unit, kind, mostlyFrom(1, 24));
+        } else if (pick < 90) {
+            compare("clear", unit, kind);
+        } else if (pick < 96) {
+            compare("note");
         } else {
-            int line = mostly(60);
-            same(name + " close", () -> model.close(line), () -> deck.close(line));
+            compare("close", mostlyBelow(60));
         }
-    }
-
-    private String viewOfModel() {
-        DeckModel m = model;
-        List<Check.Call> calls = new ArrayList<>(List.of(() -> m.top(), () -> m.drill(), () -> m.hour(),
-                () -> m.onDuty(), () -> m.isTired(), () -> m.openLines(), () -> m.openLines(),
-                () -> m.closedShare(), () -> m.meanAge(), () -> true));
-        for (int i = -1; i <= 8; i++) {
-            int n = i;
-            calls.addAll(List.of(() -> m.state(n), () -> m.alarms(n), () -> m.done(n), () -> m.reason(n),
-                    () -> m.barredBy(n), () -> m.isPermitOpen(n), () -> m.restLeft(n)));
-            for (int k = -1; k <= 4; k++) {
-                int kind = k;
-                calls.add(() -> m.isShelved(n, kind));
-            }
-        }
-        for (int i = -1; i <= 60; i++) {
-            int n = i;
-            calls.addAll(List.of(() -> m.openAt(n), () -> m.kindOf(n), () -> m.passed(n)));
-        }
-        return textOf(calls);
-    }
-
-    private String viewOfDeck() {
-        HandoverDeck d = deck;
-        List<Check.Call> calls = new ArrayList<>(List.of(() -> d.top(), () -> d.drill(), () -> d.hour(),
-                () -> d.onDuty(), () -> d.isTired(), () -> d.openLines(), () -> d.openByLog(),
-                () -> d.closedShare(), () -> d.meanAge(), () -> d.isSound()));
-        for (int i = -1; i <= 8; i++) {
-            int n = i;
-            calls.addAll(List.of(() -> d.state(n), () -> d.alarms(n), () -> d.done(n), () -> d.reason(n),
-                    () -> d.barredBy(n), () -> d.isPermitOpen(n), () -> d.restLeft(n)));
-            for (int k = -1; k <= 4; k++) {
-                int kind = k;
-                calls.add(() -> d.isShelved(n, kind));
-            }
-        }
-        for (int i = -1; i <= 60; i++) {
-            int n = i;
-            calls.addAll(List.of(() -> d.openAt(n), () -> d.kindOf(n), () -> d.passed(n)));
-        }
-        return textOf(calls);
-    }
-
-    private static String textOf(List<Check.Call> calls) {
-        StringBuilder text = new StringBuilder();
-        for (Check.Call call : calls) {
-            text.append(Check.answerOf(call)).append(' ');
-        }
-        return text.toString();
     }
 }

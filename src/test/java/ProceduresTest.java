@@ -240,6 +240,7 @@ public final class ProceduresTest {
         check.same("p15 back to the start", 0, deck.state(0));
         check.same("p15 the lines are open", 4, deck.openLines());
         check.fails("p15 none is done", IllegalStateException.class, () -> deck.undo(0));
+        check.fails("p15 none is done of a later procedure", IllegalStateException.class, () -> deck.undo(1));
         for (int wrong : new int[] {-1, 2, 6, MIN, MAX}) {
             check.fails("p15 procedure " + wrong, NoSuchElementException.class, () -> deck.undo(wrong));
         }
