@@ -4,10 +4,15 @@ import java.util.HashMap;
 import java.util.Map;
 import java.util.TreeMap;
 
-/** Long runs of calls: after each of them, all that the deck and the plain model answer is compared. */
+/**
+ * Runs of calls, each compared with the plain model: long ones, in which questions stand between, and shorter ones,
+ * at whose end all is asked. No deck is called more than 512 times, since what it answers then is free.
+ */
 public final class ModelTest {
-    private static final int RUNS = 45;
+    private static final int LONG_RUNS = 300;
+    private static final int SHORT_RUNS = 1200;
     private static final int CALLS = 512;
+    private static final int CALLS_OF_A_VIEW = 326;
     private static final int[] ODD = {-1, Integer.MIN_VALUE, Integer.MAX_VALUE, 4, 6, 8, 25, 49, 60, 256};
     private static final String[] ASKED = {
         "top", "drill", "hour", "onDuty", "isTired", "openLines", "openByLog", "closedShare", "meanAge", "isSound"};
@@ -24,13 +29,18 @@ public final class ModelTest {
     /** How fast lines are used up: runs differ, so that some see many hand-overs, and others the limits. */
     private int haste;
     private String place;
+    /** How many calls of the deck are left in this run. */
+    private int left;
 
     public static void main(String[] args) throws ReflectiveOperationException {
         ModelTest test = new ModelTest();
         test.findMethods(HandoverDeck.class);
         test.findMethods(DeckModel.class);
-        for (int run = 0; run < RUNS; run++) {
-            test.compareRun(run);
+        for (int run = 0; run < LONG_RUNS; run++) {
+            test.compareLongRun(run);
+        }
+        for (int run = 0; run < SHORT_RUNS; run++) {
+            test.compareShortRun(run);
         }
         test.checkReach();
         test.check.end();
@@ -42,15 +52,68 @@ public final class ModelTest {
         }
     }
 
-    private void compareRun(int run) throws ReflectiveOperationException {
+    private void start(String title, int run, int calls) {
         deck = new HandoverDeck();
         model = new DeckModel();
         seed = 7919L * run + 17;
         haste = run % 3;
-        for (int call = 0; call < CALLS; call++) {
-            place = "run " + run + ", call " + call + ", ";
+        left = calls;
+        place = title + " " + run + ", ";
+    }
+
+    private void compareLongRun(int run) throws ReflectiveOperationException {
+        start("long run", run, CALLS);
+        addProcedures(below(7));
+        addNotes(run % 4 == 3 ? 30 + below(28) : 0);
+        while (left > 0) {
             compareOne();
-            check.same(place + "all answers then", viewOf(model), viewOf(deck));
+            compareQuestion();
+        }
+    }
+
+    private void compareShortRun(int run) throws ReflectiveOperationException {
+        start("short run", run, 1 + run % (CALLS - CALLS_OF_A_VIEW));
+        addProcedures(below(4));
+        while (left > 0) {
+            compareOne();
+        }
+        left = CALLS_OF_A_VIEW;
+        check.same(place + "all answers at its end", viewOf(model), viewOf(deck));
+        check.same(place + "calls of a view", 0, left);
+    }
+
+    /** Else most runs would be over before a procedure has many steps. */
+    private void addProcedures(int count) throws ReflectiveOperationException {
+        for (int procedure = 0; procedure < count; procedure++) {
+            compare("addProcedure");
+            int steps = below(9);
+            for (int step = 0; step < steps; step++) {
+                addStep(procedure);
+            }
+        }
+    }
+
+    private void addNotes(int count) throws ReflectiveOperationException {
+        for (int note = 0; note < count; note++) {
+            compare("note");
+            if (below(3) > 0) {
+                compare("close", note);
+            }
+        }
+    }
+
+    private void addStep(int procedure) throws ReflectiveOperationException {
+        compare("addStep", procedure, mostlyBelow(2 + below(7)), mostlyBelow(1 + below(4)),
+                mostlyBelow(2 + below(7)), mostlyBelow(4));
+    }
+
+    private void compareQuestion() throws ReflectiveOperationException {
+        switch (below(8)) {
+            case 0 -> compare(ASKED[below(ASKED.length)]);
+            case 1 -> compare(ASKED_BY_NUMBER[below(ASKED_BY_NUMBER.length)], mostlyBelow(8));
+            case 2 -> compare(ASKED_BY_LINE[below(ASKED_BY_LINE.length)], mostlyBelow(60));
+            case 3 -> compare("isShelved", mostlyBelow(8), mostlyBelow(4));
+            default -> { }
         }
     }
 
@@ -77,6 +140,9 @@ public final class ModelTest {
     }
 
     private String ask(Object target, String name, int... numbers) throws ReflectiveOperationException {
+        if (target == deck) {
+            left--;
+        }
         Object[] arguments = new Object[numbers.length];
         for (int i = 0; i < numbers.length; i++) {
             arguments[i] = numbers[i];
@@ -88,10 +154,16 @@ public final class ModelTest {
         }
     }
 
-    private void compare(String name, int... numbers) throws ReflectiveOperationException {
+    /** Whether the call is allowed. */
+    private boolean compare(String name, int... numbers) throws ReflectiveOperationException {
+        if (left <= 0) {
+            return false;
+        }
         String due = ask(model, name, numbers);
         check.same(place + name, due, ask(deck, name, numbers));
-        outcomes.merge(due.startsWith("throws") ? name + " " + due : name, 1, Integer::sum);
+        boolean allowed = !due.startsWith("throws");
+        outcomes.merge(allowed ? name : name + " " + due, 1, Integer::sum);
+        return allowed;
     }
 
     private String viewOf(Object target) throws ReflectiveOperationException {
@@ -155,8 +227,7 @@ public final class ModelTest {
         if (pick < 2) {
             compare("addProcedure");
         } else if (pick < 9) {
-            compare("addStep", procedure, mostlyBelow(2 + below(7)), mostlyBelow(1 + below(4)),
-                    mostlyBelow(2 + below(7)), mostlyBelow(4));
+            addStep(procedure);
         } else if (pick < 20) {
             compare("step", procedure);
         } else if (pick < 26) {
@@ -164,8 +235,9 @@ public final class ModelTest {
         } else if (pick < 28) {
             compare("reset", procedure);
         } else {
-            for (int i = 0; i < 8; i++) {
-                compare("step", procedure);
+            boolean allowed = true;
+            for (int i = 0; i < 8 && allowed; i++) {
+                allowed = compare("step", procedure);
             }
         }
     }
@@ -194,13 +266,14 @@ public final class ModelTest {
         }
         int open = model.openLines();
         int first = open == 0 ? 0 : below(open);
-        for (int i = 0; i < open; i++) {
-            compare("acknowledge", model.openAt((first + i) % open));
+        boolean allowed = true;
+        for (int i = 0; i < open && allowed; i++) {
+            allowed = compare("acknowledge", model.openAt((first + i) % open));
         }
     }
 
     private void comparePermitCall(int pick) throws ReflectiveOperationException {
-        if (pick < 62 && below(3) == 0) {
+        if (pick < 62) {
             compare("openPermit", below(3) == 0 ? mostlyFrom(1, 255) : 1 << below(8) | 1 << below(8));
         } else {
             compare("closePermit", mostlyBelow(8));

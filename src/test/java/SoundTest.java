@@ -28,42 +28,52 @@ public final class SoundTest {
     }
 
     private static void permitsShareUnit() throws ReflectiveOperationException {
-        HandoverDeck deck = new HandoverDeck();
-        deck.begin(0);
-        deck.openPermit(1);
-        deck.openPermit(2);
-        deck.openPermit(4);
-        check.isTrue("p40 permits are apart", deck.isSound());
-        Array.setInt(inside(inside(deck, "permits"), "unitSets"), 2, 6);
-        check.isFalse("p40 two permits share a unit", deck.isSound());
-        deck.closePermit(1);
-        check.isTrue("p40 one of them is closed", deck.isSound());
+        for (int first = 0; first < 8; first++) {
+            for (int second = first + 1; second < 8; second++) {
+                HandoverDeck deck = new HandoverDeck();
+                deck.begin(0);
+                for (int unit = 0; unit < 8; unit++) {
+                    deck.openPermit(1 << unit);
+                }
+                check.isTrue("p40 permits are apart", deck.isSound());
+                Array.setInt(inside(inside(deck, "permits"), "unitSets"), second, 1 << second | 1 << first);
+                check.isFalse("p40 permits " + first + " and " + second + " share a unit", deck.isSound());
+                deck.closePermit(first);
+                check.isTrue("p40 one of them is closed", deck.isSound());
+            }
+        }
     }
 
     private static void activeAlarmWithoutOpenLine() throws ReflectiveOperationException {
-        HandoverDeck deck = new HandoverDeck();
-        deck.note();
-        deck.close(0);
-        deck.raise(7, 3, 1);
-        check.isTrue("p40 the alarm has an open line", deck.isSound());
-        Array.setInt(inside(inside(deck, "board"), "lines"), 31, 0);
-        check.isFalse("p40 the line of the alarm is closed", deck.isSound());
+        for (int alarm = 0; alarm < 32; alarm++) {
+            HandoverDeck deck = Decks.withClosedNotes(1);
+            Decks.raiseAll(deck);
+            check.isTrue("p40 the alarm has an open line", deck.isSound());
+            Array.setInt(inside(inside(deck, "board"), "lines"), alarm, 0);
+            check.isFalse("p40 the line of alarm " + alarm + " is closed", deck.isSound());
+        }
     }
 
     private static void undoneStepWithoutOpenLine() throws ReflectiveOperationException {
-        HandoverDeck deck = new HandoverDeck();
-        deck.begin(0);
-        deck.note();
-        deck.close(0);
-        for (int procedure = 0; procedure < 6; procedure++) {
-            deck.addProcedure();
+        for (int place = 0; place < 48; place++) {
+            HandoverDeck deck = Decks.withClosedNotes(1);
+            for (int procedure = 0; procedure < 6; procedure++) {
+                Decks.addProcedure(deck, new int[8][4]);
+            }
+            undoAll(deck);
+            check.isTrue("p40 the undone step has an open line", deck.isSound());
+            Array.setInt(inside(inside(deck, "book"), "undoneLines"), place, 0);
+            check.isFalse("p40 the line of undone step " + place + " is closed", deck.isSound());
         }
-        deck.addStep(5, 0, 0, 0, 1);
-        deck.step(5);
-        deck.undo(5);
-        check.isTrue("p40 the undone step has an open line", deck.isSound());
-        Array.setInt(inside(inside(deck, "book"), "undoneLines"), 40, 0);
-        check.isFalse("p40 the line of the undone step is closed", deck.isSound());
+    }
+
+    private static void undoAll(HandoverDeck deck) {
+        for (int place = 0; place < 48; place++) {
+            deck.step(place / 8);
+        }
+        for (int place = 0; place < 48; place++) {
+            deck.undo(place / 8);
+        }
     }
 
     private static Object inside(Object owner, String name) throws ReflectiveOperationException {
