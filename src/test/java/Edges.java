@@ -1,13 +1,18 @@
 import java.lang.reflect.InvocationTargetException;
 import java.lang.reflect.Method;
+import java.lang.reflect.Modifier;
 import java.util.Arrays;
 import java.util.Comparator;
 import java.util.HashMap;
+import java.util.HashSet;
+import java.util.List;
 import java.util.Map;
+import java.util.Set;
 
 /**
- * What the tests of boundary cases share. Each case is a method of its own, whose name begins with that of its
- * promise ("promise3..."); all of them are run, each even if another fails.
+ * What the tests share whose cases are methods of their own. The name of such a method begins with a title in small
+ * letters, that of a promise ("promise3...") or of a part of the document's terms ("alarms..."); all of them are run,
+ * each even if another fails.
  */
 abstract class Edges {
     interface Call {
@@ -39,20 +44,33 @@ abstract class Edges {
 
     /** Runs the tests of the promises from one to another, of which each has at least one. */
     final void runAll(int from, int to) {
+        String[] titles = new String[to - from + 1];
+        for (int promise = from; promise <= to; promise++) {
+            titles[promise - from] = "promise" + promise;
+        }
+        runAll(titles);
+    }
+
+    /** Runs all tests, each of which has one of these titles; each title has at least one. */
+    final void runAll(String... titles) {
         Method[] methods = getClass().getDeclaredMethods();
         Arrays.sort(methods, Comparator.comparing(Method::getName));
-        int[] found = new int[to + 1];
+        Set<String> found = new HashSet<>();
         for (Method method : methods) {
-            if (method.getName().startsWith("promise")) {
+            if (isTest(method)) {
                 test = method.getName();
+                found.add(test.replaceAll("[A-Z].*", ""));
                 runOne(method);
-                found[Integer.parseInt(test.replaceAll("^promise([0-9]+).*", "$1"))]++;
             }
         }
-        for (int promise = from; promise <= to; promise++) {
-            check.isTrue("there is a test of promise " + promise, found[promise] > 0);
-        }
+        test = "titles of the tests";
+        same("all of them", new HashSet<>(List.of(titles)), found);
         check.end();
+    }
+
+    /** What is private or static helps the tests. */
+    private static boolean isTest(Method method) {
+        return !Modifier.isPrivate(method.getModifiers()) && !Modifier.isStatic(method.getModifiers());
     }
 
     private void runOne(Method method) {
@@ -80,12 +98,32 @@ abstract class Edges {
 
     /** The call is refused, and has changed nothing that any other call shows. */
     final void refused(String what, Class<? extends RuntimeException> due, Decks.Maker maker, Call call) {
-        String[] shown = untouched.computeIfAbsent(maker, Edges::allLooks);
+        String[] shown = shownOf(maker);
         for (int look = 0; look < Looks.COUNT; look++) {
             HandoverDeck deck = maker.make();
             check.fails(test + ", " + what, due, () -> call.on(deck));
             check.same(test + ", " + what + ", what it changed", "", difference(shown[look], Looks.at(deck, look)));
         }
+    }
+
+    /** The call, whether it answers or throws, has changed nothing that any other call shows. */
+    final void unchanged(String what, Decks.Maker maker, Call call) {
+        String[] shown = shownOf(maker);
+        for (int look = 0; look < Looks.COUNT; look++) {
+            HandoverDeck deck = maker.make();
+            Check.answerOf(() -> call.on(deck));
+            check.same(test + ", " + what + ", what it changed", "", difference(shown[look], Looks.at(deck, look)));
+        }
+    }
+
+    /** The call throws this; what it leaves behind is looked at elsewhere. */
+    final void fails(String what, Class<? extends RuntimeException> due, Check.Call call) {
+        check.fails(test + ", " + what, due, call);
+    }
+
+    /** What the looks show of such a deck that no call has touched since. */
+    private String[] shownOf(Decks.Maker maker) {
+        return untouched.computeIfAbsent(maker, Edges::allLooks);
     }
 
     /** Only the first answer that differs: a look is long. */
