@@ -2,8 +2,8 @@ import java.lang.reflect.Array;
 import java.lang.reflect.Field;
 
 /**
- * Promise 40 where it does not hold. No run of calls leads there, so that the fields inside are set by hand:
- * this test alone knows their names, and is to be changed with them.
+ * Promise 40 where it does not hold, and promise 13 where several permits bar a step. No run of calls leads there, so
+ * that the fields inside are set by hand: this test alone knows their names, and is to be changed with them.
  */
 public final class SoundTest {
     private static final Check check = new Check("sound");
@@ -11,6 +11,7 @@ public final class SoundTest {
     public static void main(String[] args) throws ReflectiveOperationException {
         countsDisagree();
         permitsShareUnit();
+        severalPermitsBar();
         activeAlarmWithoutOpenLine();
         undoneStepWithoutOpenLine();
         check.end();
@@ -40,6 +41,24 @@ public final class SoundTest {
                 check.isFalse("p40 permits " + first + " and " + second + " share a unit", deck.isSound());
                 deck.closePermit(first);
                 check.isTrue("p40 one of them is closed", deck.isSound());
+            }
+        }
+    }
+
+    private static void severalPermitsBar() throws ReflectiveOperationException {
+        for (int lower = 0; lower < 8; lower++) {
+            for (int unit = lower + 1; unit < 8; unit++) {
+                HandoverDeck deck = new HandoverDeck();
+                deck.begin(0);
+                Decks.addProcedure(deck, new int[][] {{0, 0, unit, 0}});
+                for (int permit = 0; permit < 8; permit++) {
+                    deck.openPermit(1 << permit);
+                }
+                check.same("p13 one permit bars", unit, deck.barredBy(0));
+                Array.setInt(inside(inside(deck, "permits"), "unitSets"), lower, 1 << lower | 1 << unit);
+                check.same("p13 two bar, the one with the lowest number", lower, deck.barredBy(0));
+                deck.closePermit(lower);
+                check.same("p13 the lowest is closed", unit, deck.barredBy(0));
             }
         }
     }
